@@ -8,6 +8,8 @@ public final class QuestionsTest {
         histories();
         articles();
         servers();
+        lastIdAndLeastTicks();
+        noFreeBlock();
         checks.end();
     }
 
@@ -127,5 +129,43 @@ public final class QuestionsTest {
                 checks.due("about(" + s + ", " + what + ")", x.about(s, what), -1);
             }
         }
+    }
+
+    /** ID 40 goes from server 1 to server 0, in a group that is kept for one tick. */
+    private static void lastIdAndLeastTicks() {
+        NewsFlood x = new NewsFlood(2, 1);
+        x.carry(0, Checks.text("a"), 1);
+        x.carry(1, Checks.text("a"), 1);
+        x.peer(1, 0, Checks.text("a"));
+        Checks.file(x, 1, 1, 1);
+        Checks.file(x, 1, 40, 1);
+        checks.due("backlog for server 0", x.backlog(1, 0, 1), 40);
+        x.select(1, 0);
+        checks.due("step to 40", x.step(1, true), 40);
+        checks.due("stat of 40", x.stat(1, 2), 40);
+        checks.due("over 40", x.over(1, 2, 2), 1);
+        checks.due("step back to 1", x.step(1, false), 1);
+        checks.due("holds", x.about(1, 0), 2);
+        Checks.file(x, 1, 2, 1, 1, 1);
+        checks.due("1 left the backlog", x.backlog(1, 0, 0), 40);
+        checks.due("select", x.select(1, 0), 2);
+        checks.due("lowest", x.about(1, 7), 2);
+        checks.due("offer", x.offer(1, 0), 335);
+        x.receive(0, 1);
+        checks.due("number at server 0", x.article(0, 40, 3), 1);
+        x.tick(2);
+        checks.due("expire", x.expire(0), 1);
+        checks.due("expired and dropped", x.history(0, 40, 0), 0);
+        checks.due("expire", x.expire(1), 2);
+        checks.due("the backlog is empty", x.backlog(1, 0, 0), -1);
+    }
+
+    private static void noFreeBlock() {
+        NewsFlood x = some();
+        Checks.file(x, 0, 1, 1, 8, 0);
+        Checks.file(x, 0, 2, 1, 8, 0);
+        Checks.file(x, 0, 3, 1, 3, 0);
+        checks.due("free blocks", x.about(0, 1), 0);
+        checks.due("neighbouring", x.about(0, 2), 0);
     }
 }
