@@ -7,6 +7,8 @@ public final class CarryTest {
         carryingAgainChangesTheTicksAlone();
         namesAreChecked();
         wrongCallsChangeNothing();
+        ticksAtTheirLimits();
+        sixGroupsAndNoSeventh();
         checks.end();
     }
 
@@ -86,5 +88,38 @@ public final class CarryTest {
         checks.due("ticks stay", x.group(0, 0, 3), 1);
         checks.due("keep 1000", x.carry(0, Checks.text("b"), 1000), 0);
         checks.due("ticks are 1000", x.group(0, 0, 3), 1000);
+    }
+
+    /** "keep is not 1 .. 1000", for a new group and for one that is carried. */
+    private static void ticksAtTheirLimits() {
+        int[] edges = {-1, 0, 1, 2, 999, 1000, 1001, 1002};
+        for (int keep : edges) {
+            boolean right = keep >= 1 && keep <= 1000;
+            NewsFlood x = new NewsFlood(2, 5);
+            checks.due("new, keep " + keep, x.carry(0, Checks.text("a"), keep), right ? 0 : -1);
+            checks.due("its ticks", x.group(0, 0, 3), right ? keep : -1);
+            x.carry(1, Checks.text("b"), 500);
+            int b = right ? 1 : 0;
+            checks.due("carried, keep " + keep, x.carry(1, Checks.text("b"), keep), right ? b : -1);
+            checks.due("its ticks", x.group(1, b, 3), right ? keep : 500);
+        }
+    }
+
+    /** "no group has that name and there are 6": a name that is there is carried still. */
+    private static void sixGroupsAndNoSeventh() {
+        String[] names = {"a", "b", "c", "d", "e", "f"};
+        NewsFlood x = new NewsFlood(2, 5);
+        for (int g = 0; g < 6; g++) {
+            checks.due("carry " + names[g], carry(x, 0, names[g]), g);
+        }
+        checks.due("a 7th", carry(x, 0, "g"), -1);
+        checks.due("a 7th elsewhere", carry(x, 1, "g"), -1);
+        for (int g = 0; g < 6; g++) {
+            checks.due("not carried elsewhere " + names[g], x.group(1, g, 0), -1);
+            checks.due("elsewhere " + names[g], carry(x, 1, names[g]), g);
+            checks.due("again " + names[g], x.carry(0, Checks.text(names[g]), g + 1), g);
+            checks.due("ticks " + names[g], x.group(0, g, 3), g + 1);
+        }
+        checks.due("a 7th still", carry(x, 1, "g"), -1);
     }
 }

@@ -8,6 +8,12 @@ public final class CrashTest {
         othersGoOn();
         allElseStays();
         refusals();
+        lostAsIfItHadNeverBegun();
+        lostAtEachNumberOfBlocks();
+        theSameArticleFromOneSender();
+        lostThoughTheSenderRemovedIt();
+        lostThoughTheSenderFeedsNoMore();
+        lastOfManyReceivers();
         checks.end();
     }
 
@@ -132,5 +138,137 @@ public final class CrashTest {
         checks.due("crash of -1 while one posts", x.crash(-1), -1);
         checks.due("nothing was lost", x.about(0, 5), 1);
         checks.due("selected stays", x.about(0, 6), 0);
+    }
+
+    /** An article of 5 blocks waits at server 0 for all others, and one was posted and lost at 3. */
+    private static NewsFlood waiting() {
+        NewsFlood x = four();
+        x.tick(3);
+        Checks.file(x, 0, 1, 1, 5, 9);
+        Checks.file(x, 1, 2, 1, 3, 0);
+        x.write(3, 1, 3, 4, 2);
+        x.post(3, 3, 1);
+        x.crash(3);
+        return x;
+    }
+
+    /** "where it is lost, its blocks are free, and nothing else of it was there". */
+    private static void lostAsIfItHadNeverBegun() {
+        Situations.Situation waiting = new Situations.Situation("waiting", CrashTest::waiting);
+        waiting.unchanged(checks, "nothing to lose", x -> x.crash(0), 0);
+        waiting.unchanged(checks, "offer, crash of the receiver", x -> x.offer(0, 2) + x.crash(2), 336);
+        waiting.unchanged(checks, "offer, crash of the sender", x -> x.offer(0, 2) + x.crash(0), 336);
+        waiting.unchanged(checks, "4 of 5, crash of the receiver",
+            x -> x.offer(0, 2) + x.receive(2, 4) + x.crash(2), 337);
+        waiting.unchanged(checks, "4 of 5, crash of the sender",
+            x -> x.offer(0, 2) + x.receive(2, 4) + x.crash(0), 337);
+        waiting.unchanged(checks, "one at two, crash of the sender",
+            x -> x.offer(0, 2) + x.offer(0, 3) + x.receive(3, 1) + x.crash(0), 335 + 335 + 4 + 2);
+        waiting.unchanged(checks, "post, crash", x -> x.post(3, 3, 7) + x.receive(3, 3) + x.crash(3), 342);
+    }
+
+    private static void lostAtEachNumberOfBlocks() {
+        for (int size = 1; size <= 8; size++) {
+            for (int stored = 0; stored <= size; stored++) {
+                for (int s = 0; s < 2; s++) {
+                    NewsFlood x = four();
+                    Checks.file(x, 0, 1, 1, size, 0);
+                    x.offer(0, 1);
+                    x.receive(1, stored);
+                    String when = stored + " of " + size + " blocks, crash of " + s;
+                    boolean lost = stored < size;
+                    checks.due(when, x.crash(s), lost ? 1 : 0);
+                    checks.due(when + ": free", x.about(1, 1), lost ? 24 : 24 - size);
+                    checks.due(when + ": neighbouring", x.about(1, 2), lost ? 24 : 24 - size);
+                    checks.due(when + ": entry", x.history(1, 1, 0), lost ? 0 : 1);
+                    checks.due(when + ": backlog", x.backlog(0, 1, 0), lost ? 1 : -1);
+                    checks.due(when + ": receives", x.about(1, 5), 0);
+                }
+            }
+        }
+    }
+
+    /** The same article is being received by three servers from s: it is lost at each of them. */
+    private static void theSameArticleFromOneSender() {
+        for (int receivers = 0; receivers <= 3; receivers++) {
+            NewsFlood x = four();
+            Checks.file(x, 0, 1, 1, 2, 0);
+            for (int t = 1; t <= receivers; t++) {
+                x.offer(0, t);
+            }
+            checks.due("crash with " + receivers, x.crash(0), receivers);
+            for (int t = 1; t < 4; t++) {
+                checks.due("receives", x.about(t, 5), 0);
+                checks.due("free", x.about(t, 1), 24);
+                checks.due("entries", x.about(t, 3), 0);
+                checks.due("stays in the backlog", x.backlog(0, t, 0), 1);
+                checks.due("can be offered again", x.offer(0, t), 335);
+            }
+            checks.due("held by the sender", x.history(0, 1, 0), 1);
+        }
+    }
+
+    /** Server 0 cancels what server 1 still receives from it; that goes on, and a crash still ends it. */
+    private static void lostThoughTheSenderRemovedIt() {
+        NewsFlood x = four();
+        Checks.file(x, 0, 1, 1, 3, 0);
+        x.offer(0, 1);
+        x.receive(1, 1);
+        Checks.file(x, 0, 2, 1, 1, 1);
+        checks.due("held no more", x.article(0, 1, 0), -1);
+        checks.due("goes on", x.about(1, 4), 2);
+        checks.due("lost", x.crash(0), 1);
+        checks.due("receives", x.about(1, 5), 0);
+        checks.due("free", x.about(1, 1), 24);
+        checks.due("not in the backlog any more", x.backlog(0, 1, 0), 2);
+        NewsFlood y = four();
+        Checks.file(y, 0, 1, 1, 3, 0);
+        y.offer(0, 1);
+        Checks.file(y, 0, 2, 1, 1, 1);
+        checks.due("filed without a crash", y.receive(1, 3), 0);
+        checks.due("held there", y.history(1, 1, 0), 1);
+        checks.due("path of the sender", y.article(1, 1, 1), 3);
+        checks.due("then nothing is lost", y.crash(0), 0);
+    }
+
+    private static void lostThoughTheSenderFeedsNoMore() {
+        NewsFlood x = four();
+        Checks.file(x, 0, 1, 1, 3, 0);
+        x.offer(0, 1);
+        x.peer(0, 1, 0);
+        checks.due("goes on", x.receive(1, 1), 2);
+        checks.due("lost", x.crash(0), 1);
+        checks.due("receives", x.about(1, 5), 0);
+        checks.due("free", x.about(1, 1), 24);
+        checks.due("no backlog", x.backlog(0, 1, 0), -1);
+        NewsFlood y = four();
+        Checks.file(y, 0, 1, 1, 3, 0);
+        y.offer(0, 1);
+        y.peer(0, 1, 0);
+        checks.due("filed without a crash", y.receive(1, 3), 0);
+        checks.due("held there", y.history(1, 1, 0), 1);
+        checks.due("then nothing is lost", y.crash(0), 0);
+    }
+
+    /** Server 3 loses its own post and what 0, 1 and 2 receive from it. */
+    private static void lastOfManyReceivers() {
+        NewsFlood x = four();
+        for (int id = 1; id <= 3; id++) {
+            Checks.file(x, 3, id, 1, id, 0);
+        }
+        x.offer(3, 1);
+        x.receive(1, 1);
+        x.offer(3, 1);
+        x.offer(3, 0);
+        x.offer(3, 2);
+        x.write(4, 1, 0, 8, 0);
+        x.post(3, 4, 0);
+        checks.due("before", x.about(3, 1), 10);
+        checks.due("crash", x.crash(3), 4);
+        checks.due("its blocks", x.about(3, 1), 18);
+        checks.due("what it holds", x.about(3, 0), 3);
+        checks.due("what 1 holds", x.about(1, 0), 1);
+        checks.due("the backlog for 1", x.backlog(3, 1, 0), 2);
+        checks.due("the backlog for 0", x.backlog(3, 0, 0), 1);
     }
 }

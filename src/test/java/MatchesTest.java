@@ -1,7 +1,6 @@
 /** Promise 4: matches. */
 public final class MatchesTest {
     private static final Checks checks = new Checks();
-    private static final NewsFlood x = new NewsFlood(2, 5);
 
     public static void main(String[] args) {
         plainParts();
@@ -13,7 +12,7 @@ public final class MatchesTest {
     }
 
     private static void due(String pattern, String name, boolean want) {
-        boolean got = x.matches(Checks.text(pattern), Checks.text(name));
+        boolean got = new NewsFlood(2, 5).matches(Checks.text(pattern), Checks.text(name));
         checks.due("matches('" + pattern + "', '" + name + "')", got, want);
     }
 
@@ -106,6 +105,7 @@ public final class MatchesTest {
         due("*", "\0a", false);
         due("*", "aaaaaaa\u0080", false);
         due("*,,,,,,\u0080", "a", false);
+        NewsFlood x = new NewsFlood(2, 5);
         checks.due("matches(-1, -1)", x.matches(-1L, -1L), false);
         checks.due("matches(*, MIN)", x.matches(Checks.text("*"), Long.MIN_VALUE), false);
         for (int c = 0; c < 256; c++) {

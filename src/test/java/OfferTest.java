@@ -12,6 +12,9 @@ public final class OfferTest {
         orderOfTheAnswers();
         pathIsThatOfNow();
         refusals();
+        refusedBeforeEverythingElse();
+        firstThatHolds();
+        knownInEachWay();
         checks.end();
     }
 
@@ -194,5 +197,93 @@ public final class OfferTest {
         x.write(2, 1, 0, 1, 0);
         x.post(2, 2, 0);
         checks.due("refused before 431", x.offer(1, 2), -1);
+    }
+
+    /** No backlog, an empty one, or no server: NONE, although the server receives and has no room. */
+    private static void refusedBeforeEverythingElse() {
+        NewsFlood x = three(5);
+        for (int id = 1; id <= 3; id++) {
+            Checks.file(x, 2, id, 1, id < 3 ? 8 : 7, 0);
+        }
+        x.write(4, 1, 0, 1, 0);
+        x.post(2, 4, 0);
+        checks.due("no free block", x.about(2, 1), 0);
+        checks.due("empty", x.offer(0, 2), -1);
+        checks.due("empty", x.offer(1, 2), -1);
+        checks.due("no backlog", x.offer(2, 2), -1);
+        checks.due("no server", x.offer(-1, 2), -1);
+        checks.due("no server", x.offer(3, 2), -1);
+        Checks.file(x, 0, 5, 1);
+        checks.due("not empty", x.offer(0, 2), 431);
+        x.peer(0, 2, 0);
+        checks.due("no backlog any more", x.offer(0, 2), -1);
+    }
+
+    /** "The first that holds": an article that the server knows, can't use and lacks room for. */
+    private static void firstThatHolds() {
+        NewsFlood x = three(5);
+        Checks.file(x, 0, 1, 2, 8, 0);
+        Checks.file(x, 0, 2, 2, 8, 0);
+        Checks.file(x, 1, 3, 1, 8, 1);
+        Checks.file(x, 1, 4, 1, 8, 0);
+        Checks.file(x, 1, 5, 1, 1, 0);
+        x.write(6, 1, 0, 1, 0);
+        x.post(1, 6, 0);
+        checks.due("receives, knows, can't use, lacks room", x.offer(0, 1), 431);
+        checks.due("nothing left the backlog", x.backlog(0, 1, 0), 1);
+        x.crash(1);
+        checks.due("knows, can't use, lacks room", x.offer(0, 1), 438);
+        checks.due("CANCELLED stays", x.history(1, 1, 0), 4);
+        checks.due("can't use, lacks room", x.offer(0, 1), 439);
+        checks.due("REFUSED", x.history(1, 2, 0), 3);
+        Checks.file(x, 0, 7, 1, 8, 0);
+        checks.due("lacks room", x.offer(0, 1), 431);
+        checks.due("no entry", x.history(1, 7, 0), 0);
+        checks.due("stays in the backlog", x.backlog(0, 1, 0), 7);
+        Checks.file(x, 1, 8, 1, 1, 4);
+        checks.due("none of all these", x.offer(0, 1), 335);
+    }
+
+    /** "t knows the ID: 438", by an entry of each kind. */
+    private static void knownInEachWay() {
+        NewsFlood x = three(5);
+        x.carry(1, Checks.text("a"), 1);
+        Checks.file(x, 0, 1, 1);
+        Checks.file(x, 0, 2, 1);
+        Checks.file(x, 0, 3, 2);
+        Checks.file(x, 0, 4, 1);
+        x.peer(0, 1, 0);
+        x.peer(2, 1, Checks.text("*"));
+        x.peer(0, 2, Checks.text("*"));
+        x.carry(2, Checks.text("b"), 1000);
+        for (int id = 1; id <= 4; id++) {
+            checks.due("to server 2", x.offer(0, 2), 335);
+            x.receive(2, 1);
+        }
+        x.post(1, 1, 0);
+        x.receive(1, 1);
+        x.tick(2);
+        checks.due("expire", x.expire(1), 1);
+        x.post(1, 2, 0);
+        x.receive(1, 1);
+        Checks.file(x, 1, 5, 1, 1, 4);
+        checks.due("EXPIRED", x.history(1, 1, 0), 2);
+        checks.due("EXPIRED: 438", x.offer(2, 1), 438);
+        checks.due("FILED", x.history(1, 2, 0), 1);
+        checks.due("FILED: 438", x.offer(2, 1), 438);
+        checks.due("can't use 3", x.offer(2, 1), 439);
+        checks.due("CANCELLED", x.history(1, 4, 0), 4);
+        checks.due("CANCELLED: 438", x.offer(2, 1), 438);
+        checks.due("empty", x.offer(2, 1), -1);
+        x.peer(0, 1, Checks.text("*"));
+        x.write(6, 2, 2, 1, 0);
+        x.post(0, 6, 0);
+        x.receive(0, 1);
+        checks.due("REFUSED from 0", x.offer(0, 1), 439);
+        checks.due("offer to 2", x.offer(0, 2), 335);
+        x.receive(2, 1);
+        checks.due("REFUSED", x.history(1, 6, 0), 3);
+        checks.due("REFUSED: 438", x.offer(2, 1), 438);
+        checks.due("REFUSED stays", x.history(1, 6, 0), 3);
     }
 }

@@ -8,6 +8,8 @@ public final class PeerTest {
         patternZeroDropsTheBacklog();
         wrongCallsChangeNothing();
         wrongBacklogQuestions();
+        everyPairOfServers();
+        placesInABacklog();
         checks.end();
     }
 
@@ -111,5 +113,38 @@ public final class PeerTest {
         }
         checks.due("the last of 24", x.backlog(0, 1, 23), 24);
         checks.due("behind it", x.backlog(0, 1, 24), -1);
+    }
+
+    /** "s or t is none, s is t", for each number of servers. */
+    private static void everyPairOfServers() {
+        for (int n = 2; n <= 4; n++) {
+            for (int s = -1; s <= n; s++) {
+                for (int t = -1; t <= n; t++) {
+                    boolean right = s >= 0 && s < n && t >= 0 && t < n && s != t;
+                    String pair = "(" + s + ", " + t + ") of " + n;
+                    NewsFlood x = new NewsFlood(n, 5);
+                    checks.due("peer by 0 " + pair, x.peer(s, t, 0), right);
+                    checks.due("peer " + pair, x.peer(s, t, Checks.text("*")), right);
+                    x.carry(s, Checks.text("a"), 5);
+                    Checks.file(x, s, 1, 1);
+                    checks.due("backlog " + pair, x.backlog(s, t, 0), right ? 1 : -1);
+                    checks.due("the other way " + pair, x.backlog(t, s, 0), -1);
+                }
+            }
+        }
+    }
+
+    /** "The ID with number k (from 0) in the backlog": its last place and the one behind it. */
+    private static void placesInABacklog() {
+        NewsFlood x = three();
+        x.peer(0, 1, Checks.text("*"));
+        for (int size = 0; size <= 24; size++) {
+            checks.due("before the first of " + size, x.backlog(0, 1, -1), -1);
+            checks.due("the first of " + size, x.backlog(0, 1, 0), size == 0 ? -1 : 40);
+            checks.due("the last of " + size, x.backlog(0, 1, size - 1), size == 0 ? -1 : 41 - size);
+            checks.due("behind the last of " + size, x.backlog(0, 1, size), -1);
+            checks.due("far behind the last of " + size, x.backlog(0, 1, size + 1), -1);
+            Checks.file(x, 0, 40 - size, 1);
+        }
     }
 }

@@ -10,6 +10,9 @@ public final class PostTest {
         room();
         fullHistory();
         refusals();
+        pathsOfEachNumberOfServers();
+        knownInEachWay();
+        refusedBeforeEverythingElse();
         checks.end();
     }
 
@@ -153,5 +156,83 @@ public final class PostTest {
         y.write(1, 1, 0, 1, 0);
         checks.due("path 16 of four", y.post(0, 1, 16), -1);
         checks.due("path 15 of four", y.post(0, 1, 15), 340);
+    }
+
+    /** "path is not 0 .. 2 to the power n less 1"; "its path will be that of the poster and s". */
+    private static void pathsOfEachNumberOfServers() {
+        for (int n = 2; n <= 4; n++) {
+            for (int path = -1; path <= 17; path++) {
+                boolean right = path >= 0 && path < 1 << n;
+                int s = n - 1;
+                NewsFlood x = new NewsFlood(n, 5);
+                x.carry(s, Checks.text("a"), 5);
+                x.write(1, 1, 0, 1, 0);
+                String call = "path " + path + " of " + n;
+                checks.due(call, x.post(s, 1, path), right ? 340 : -1);
+                x.receive(s, 1);
+                checks.due(call + ", then", x.article(s, 1, 1), right ? path | 1 << s : -1);
+            }
+        }
+    }
+
+    /** "it knows the ID": an entry of each kind is enough, until it is dropped. */
+    private static void knownInEachWay() {
+        NewsFlood x = new NewsFlood(2, 5);
+        x.carry(0, Checks.text("a"), 1);
+        x.carry(1, Checks.text("a"), 9);
+        x.carry(1, Checks.text("b"), 9);
+        x.peer(1, 0, Checks.text("b"));
+        x.write(1, 1, 10, 1, 0);
+        x.write(2, 2, 10, 1, 0);
+        x.write(3, 1, 10, 1, 4);
+        x.write(4, 1, 10, 1, 0);
+        x.post(1, 2, 0);
+        x.receive(1, 1);
+        checks.due("offer", x.offer(1, 0), 439);
+        x.post(0, 1, 0);
+        x.receive(0, 1);
+        checks.due("FILED", x.post(0, 1, 0), 441);
+        x.tick(2);
+        x.expire(0);
+        checks.due("is EXPIRED", x.history(0, 1, 0), 2);
+        checks.due("EXPIRED", x.post(0, 1, 0), 441);
+        x.carry(0, Checks.text("b"), 9);
+        checks.due("is REFUSED", x.history(0, 2, 0), 3);
+        checks.due("REFUSED", x.post(0, 2, 0), 441);
+        x.post(0, 3, 0);
+        x.receive(0, 1);
+        checks.due("is CANCELLED", x.history(0, 4, 0), 4);
+        checks.due("CANCELLED", x.post(0, 4, 0), 441);
+        x.tick(6);
+        x.expire(0);
+        checks.due("dropped", x.history(0, 4, 0), 0);
+        checks.due("no more CANCELLED", x.post(0, 4, 0), 340);
+    }
+
+    /** Each reason for NONE, where each reason for 441 holds too. */
+    private static void refusedBeforeEverythingElse() {
+        NewsFlood receives = two(5);
+        receives.write(1, 1, 0, 1, 0);
+        receives.post(0, 1, 0);
+        NewsFlood knows = two(5);
+        Checks.file(knows, 0, 1, 1);
+        NewsFlood uses = two(5);
+        uses.write(1, 2, 50, 1, 0);
+        NewsFlood full = two(5);
+        for (int id = 2; id <= 4; id++) {
+            Checks.file(full, 0, id, 1, 8, 0);
+        }
+        full.write(1, 1, 0, 1, 0);
+        NewsFlood[] all = {receives, knows, uses, full};
+        for (NewsFlood x : all) {
+            checks.due("441 is due", x.post(0, 1, 0), 441);
+            checks.due("no server", x.post(2, 1, 0), -1);
+            checks.due("no server", x.post(-1, 1, 0), -1);
+            checks.due("no ID", x.post(0, 0, 0), -1);
+            checks.due("no ID", x.post(0, 41, 0), -1);
+            checks.due("not written", x.post(0, 40, 0), -1);
+            checks.due("no path", x.post(0, 1, 4), -1);
+            checks.due("no path", x.post(0, 1, -1), -1);
+        }
     }
 }

@@ -10,6 +10,8 @@ public final class QuestionsTest {
         servers();
         lastIdAndLeastTicks();
         noFreeBlock();
+        everyWhat();
+        everyKindOfEntry();
         checks.end();
     }
 
@@ -167,5 +169,54 @@ public final class QuestionsTest {
         Checks.file(x, 0, 3, 1, 3, 0);
         checks.due("free blocks", x.about(0, 1), 0);
         checks.due("neighbouring", x.about(0, 2), 0);
+    }
+
+    /** "NONE for another what": each what from below the first to above the last. */
+    private static void everyWhat() {
+        for (int what = -3; what <= 12; what++) {
+            NewsFlood x = some();
+            x.select(0, 0);
+            checks.due("group " + what, x.group(0, 0, what) != -1, what >= 0 && what <= 3);
+            checks.due("history " + what, x.history(0, 4, what) != -1, what == 0 || what == 1);
+            checks.due("history of none " + what, x.history(0, 5, what), what == 0 ? 0 : -1);
+            checks.due("article " + what, x.article(0, 4, what) != -1, what >= 0 && what <= 8);
+            checks.due("article not held " + what, x.article(0, 5, what), -1);
+            checks.due("about " + what, x.about(0, what) != -1, what >= 0 && what <= 7);
+            int g = what;
+            checks.due("group " + g + " at 0", x.group(0, g, 0) != -1, g == 0 || g == 1);
+            checks.due("group " + g + " at 1", x.group(1, g, 0), g == 2 ? 0 : -1);
+        }
+    }
+
+    /** "s ... does not hold the article": an entry that is not FILED, or one that is received. */
+    private static void everyKindOfEntry() {
+        NewsFlood x = new NewsFlood(2, 50);
+        x.carry(0, Checks.text("a"), 1);
+        x.carry(0, Checks.text("b"), 100);
+        x.carry(1, Checks.text("c"), 100);
+        x.peer(0, 1, Checks.text("b"));
+        Checks.file(x, 0, 1, 1);
+        x.tick(2);
+        x.expire(0);
+        Checks.file(x, 0, 2, 2, 1, 3);
+        x.offer(0, 1);
+        x.write(4, 2, 2, 3, 0);
+        x.post(0, 4, 0);
+        int[] kinds = {0, 2, 1, 4, 0};
+        for (int id = 1; id <= 4; id++) {
+            checks.due("kind of " + id, x.history(0, id, 0), kinds[id]);
+            checks.due("until of " + id, x.history(0, id, 1) != -1, id < 4);
+            for (int what = 0; what <= 8; what++) {
+                checks.due("article " + id + ", " + what, x.article(0, id, what) != -1, id == 2);
+            }
+        }
+        checks.due("REFUSED", x.history(1, 2, 0), 3);
+        checks.due("until", x.history(1, 2, 1), 52);
+        checks.due("not held", x.article(1, 2, 0), -1);
+        checks.due("held at 0", x.about(0, 0), 1);
+        checks.due("held at 1", x.about(1, 0), 0);
+        checks.due("entries of 0", x.about(0, 3), 3);
+        checks.due("entries of 1", x.about(1, 3), 1);
+        checks.due("free", x.about(0, 1), 20);
     }
 }

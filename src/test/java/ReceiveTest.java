@@ -13,6 +13,7 @@ public final class ReceiveTest {
         cancelUnknown();
         cancelWithFullHistory();
         refusals();
+        asManyBlocksAsAreLeft();
         checks.end();
     }
 
@@ -194,5 +195,30 @@ public final class ReceiveTest {
         }
         checks.due("nothing was stored", x.about(0, 4), 2);
         checks.due("the other receives nothing", x.receive(1, 1), -1);
+    }
+
+    /** "Up to so many further blocks": fewer than are left, just these, and more, for every size. */
+    private static void asManyBlocksAsAreLeft() {
+        for (int size = 1; size <= 8; size++) {
+            for (int stored = 0; stored < size; stored++) {
+                int left = size - stored;
+                int[] edges = {0, 1, left - 1, left, left + 1, Integer.MAX_VALUE - stored, Integer.MAX_VALUE};
+                for (int blocks : edges) {
+                    NewsFlood x = two(5);
+                    x.write(1, 1, 0, size, 0);
+                    x.post(0, 1, 0);
+                    if (stored > 0) {
+                        checks.due("stored", x.receive(0, stored), left);
+                    }
+                    int want = Math.max(0, left - blocks);
+                    String call = blocks + " of " + left + " blocks";
+                    checks.due(call, x.receive(0, blocks), blocks < 1 ? -1 : want);
+                    checks.due(call + ", missing", x.about(0, 4), want);
+                    checks.due(call + ", receives", x.about(0, 5), want > 0 ? 1 : 0);
+                    checks.due(call + ", entry", x.history(0, 1, 0), want > 0 ? 0 : 1);
+                    checks.due(call + ", free", x.about(0, 1), 24 - size);
+                }
+            }
+        }
     }
 }
