@@ -27,6 +27,7 @@ public final class NewsFlood {
 
     private final int cutoff;
     private final Server[] servers;
+    /** By ID; the article 0 is never written and stands there so that no row holds null. */
     private final Article[] articles;
     private final long[] groupNames;
     private int groupCount;
@@ -40,7 +41,7 @@ public final class NewsFlood {
             this.servers[s] = new Server(count);
         }
         this.articles = new Article[LAST_ID + 1];
-        for (int id = 1; id <= LAST_ID; id++) {
+        for (int id = 0; id <= LAST_ID; id++) {
             this.articles[id] = new Article();
         }
         this.groupNames = new long[MOST_GROUPS];
@@ -205,11 +206,11 @@ public final class NewsFlood {
         }
         servers[s].selected = g;
         servers[s].current = servers[s].nextNumber(g, 0);
-        return servers[s].countNumbers(g, 1, Integer.MAX_VALUE);
+        return servers[s].countAll(g);
     }
 
     public int step(int s, boolean forward) {
-        if (!isServer(s) || servers[s].current == NONE) {
+        if (!hasSelected(s) || servers[s].current == NONE) {
             return NONE;
         }
         Server server = servers[s];
@@ -220,14 +221,14 @@ public final class NewsFlood {
     }
 
     public int stat(int s, int number) {
-        if (!isServer(s) || servers[s].selected == NONE) {
+        if (!hasSelected(s)) {
             return NONE;
         }
         return goTo(servers[s], number == 0 ? servers[s].current : number);
     }
 
     public int over(int s, int from, int to) {
-        if (!isServer(s) || servers[s].selected == NONE) {
+        if (!hasSelected(s)) {
             return 0;
         }
         return servers[s].countNumbers(servers[s].selected, from, to);
@@ -244,7 +245,7 @@ public final class NewsFlood {
             case 1:
                 return server.lowestOrNext(g);
             case 2:
-                return server.countNumbers(g, 1, Integer.MAX_VALUE);
+                return server.countAll(g);
             case 3:
                 return server.keep[g];
             default:
@@ -328,6 +329,10 @@ public final class NewsFlood {
 
     private boolean carries(int s, int g) {
         return isServer(s) && g >= 0 && g < MOST_GROUPS && servers[s].keep[g] > 0;
+    }
+
+    private boolean hasSelected(int s) {
+        return isServer(s) && servers[s].selected != NONE;
     }
 
     /** The number of the group with that name, or the one that a new group would get. */
@@ -825,6 +830,10 @@ public final class NewsFlood {
                 }
             }
             return NONE;
+        }
+
+        int countAll(int g) {
+            return countNumbers(g, 1, high[g]);
         }
 
         int countNumbers(int g, int from, int to) {
